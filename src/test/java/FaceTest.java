@@ -117,6 +117,7 @@ public final class FaceTest {
         }
     }
 
+    // Stricter than LANGUAGE.md: what the program does without needs no closer look at how it is used.
     private static void source(String whole) {
         String code = whole.replaceAll("(?s)/\\*.*?\\*/", "").replaceAll("//.*", "").replaceAll("\"[^\"]*\"", "\"\"");
         String[] forbidden = {"->", "::", "\\bimport\\b", "\\bpackage\\b", "\\btry\\b", "\\bcatch\\b", "\\bfinally\\b",

@@ -2,6 +2,7 @@
 public final class OracleTest {
     private static final int RUNS = 4000;
     private static final int CALLS = 512;
+    private static final int PLANS = 3000;
     private static final int MOST_PRINTED = 20;
 
     private final Makewheel made = new Makewheel();
@@ -43,6 +44,10 @@ public final class OracleTest {
             OracleTest test = new OracleTest(run);
             Due.is("run " + run + ": whether all answers agree", true, () -> test.agrees());
         }
+        for (int run = 0; run < PLANS; run++) {
+            OracleTest test = new OracleTest(RUNS + run);
+            Due.is("plan " + run + ": whether all times agree", true, () -> test.agreesOnTimes());
+        }
         Due.end("OracleTest");
     }
 
@@ -52,6 +57,32 @@ public final class OracleTest {
         }
         while (calls < CALLS && isRight) {
             act();
+        }
+        return isRight;
+    }
+
+    /** Wide graphs where nothing fails, with few times, so that many ways up are as long as others. */
+    private boolean agreesOnTimes() {
+        int mostTime = 1 + next(6);
+        int leaves = 1 + next(8);
+        for (int target = 0; target < 16; target++) {
+            int each = target;
+            int time = 1 + next(mostTime);
+            int kind = next(8) == 0 ? Makewheel.PICK : Makewheel.SUM;
+            same("rule(" + target + ", " + kind + ", 0, 0, " + time + ")",
+                () -> made.rule(each, kind, 0, 0, time), () -> due.rule(each, kind, 0, 0, time));
+            for (int place = 0; place < 4 && target >= leaves; place++) {
+                addInput(target, next(5) == 0 ? Makewheel.TURNED : Makewheel.TARGET,
+                    next(3) == 0 ? next(target) : Math.max(0, target - 1 - next(6)));
+            }
+        }
+        for (int node = 0; node < 32; node++) {
+            for (int machines = 1; machines <= 3; machines++) {
+                int each = node;
+                int many = machines;
+                same("time(" + node / 2 + ", " + node % 2 + ", " + machines + ")",
+                    () -> made.time(each / 2, each % 2, many), () -> due.time(each / 2, each % 2, many));
+            }
         }
         return isRight;
     }

@@ -1083,15 +1083,22 @@ public final class PromiseTest {
         give(y, 4, SUM, 0, 0, 1, TARGET, 0, TARGET, 1, TARGET, 3);
         due("23: by critical paths", 16, () -> y.time(4, 0, 2));
 
-        // Of equals the lowest one begins: 0 and 1 ahead of 2, though that costs time at the end.
+        // The ways up from 0, 1 and 2 are 8 each: 0 and 1 begin, then 2 at 2, 3 at 5, 4 at 8.
         Makewheel z = new Makewheel();
-        give(z, 0, SUM, 0, 0, 4);
-        give(z, 1, SUM, 0, 0, 3);
-        give(z, 2, SUM, 0, 0, 3);
-        give(z, 3, SUM, 0, 0, 1, TARGET, 1);
-        give(z, 4, SUM, 0, 0, 1, TARGET, 2);
-        give(z, 5, SUM, 0, 0, 1, TARGET, 0, TARGET, 3, TARGET, 4);
-        due("23: of several the lowest", 8, () -> z.time(5, 0, 2));
+        give(z, 0, SUM, 0, 0, 2);
+        give(z, 1, SUM, 0, 0, 5);
+        give(z, 2, SUM, 0, 0, 5);
+        give(z, 3, SUM, 0, 0, 3, TARGET, 0);
+        give(z, 4, SUM, 0, 0, 3, TARGET, 3, TARGET, 2, TARGET, 1);
+        due("23: of several the lowest", 11, () -> z.time(4, 0, 2));
+        due("23: with three all begin", 8, () -> z.time(4, 0, 3));
+        // The same with 0 turned: 2 times the target and the configuration is 1 then, yet the lowest.
+        give(z, 3, SUM, 0, 0, 3, TURNED, 0);
+        due("23: the lowest by target, then configuration", 11, () -> z.time(4, 0, 2));
+        // And with the short one as the highest: the long ones begin, and it waits.
+        give(z, 5, SUM, 0, 0, 2);
+        give(z, 3, SUM, 0, 0, 3, TARGET, 5);
+        due("23: not the shortest", 13, () -> z.time(4, 0, 2));
         give(z, 6, SUM, 0, 0, 20);
         give(z, 7, SUM, 0, 0, 20, TARGET, 6, TURNED, 6);
         due("23: both nodes of a target at once", 40, () -> z.time(7, 0, 2));
