@@ -1,14 +1,5 @@
 /** The promises of DOC.md one by one: ordinary calls, the edges that it names, and wrong ones. */
-public final class PromiseTest {
-    private static final Class<IndexOutOfBoundsException> INDEX = IndexOutOfBoundsException.class;
-    private static final Class<IllegalArgumentException> ARGUMENT = IllegalArgumentException.class;
-    private static final Class<IllegalStateException> STATE = IllegalStateException.class;
-    private static final int FILE = Makewheel.FILE, FOLDER = Makewheel.FOLDER;
-    private static final int TARGET = Makewheel.TARGET, TURNED = Makewheel.TURNED;
-    private static final int SUM = Makewheel.SUM, TENTH = Makewheel.TENTH, PICK = Makewheel.PICK;
-    private static final int FOLLOW = Makewheel.FOLLOW, LEAK = Makewheel.LEAK, NONE = Makewheel.NONE;
-    private static final int UNSEEN = Makewheel.UNSEEN, REUSED = Makewheel.REUSED;
-    private static final int FETCHED = Makewheel.FETCHED, RUN = Makewheel.RUN, FAILED = Makewheel.FAILED;
+public final class PromiseTest extends Given {
     private static final int[] WRONG = {-1, -2, 16, 99, 1000, Integer.MAX_VALUE, Integer.MIN_VALUE};
 
     private PromiseTest() {
@@ -47,22 +38,6 @@ public final class PromiseTest {
         Due.end("PromiseTest");
     }
 
-    /** Gives a target a rule with inputs, told as what and which by turns. */
-    private static void give(Makewheel x, int target, int kind, int number, int salt, int time, int... inputs) {
-        x.rule(target, kind, number, salt, time);
-        for (int i = 0; i + 1 < inputs.length; i += 2) {
-            x.input(target, inputs[i], inputs[i + 1]);
-        }
-    }
-
-    private static void sum(Makewheel x, int target, int... inputs) {
-        give(x, target, SUM, 0, 0, 1, inputs);
-    }
-
-    private static void due(String what, Object want, Due.Call call) {
-        Due.is(what, want, call);
-    }
-
     private static void newObject() {
         Makewheel x = new Makewheel();
         for (int file = 0; file < 20; file++) {
@@ -74,7 +49,7 @@ public final class PromiseTest {
             int configuration = node % 2;
             due("1: nothing done with " + node, UNSEEN, () -> x.done(target, configuration));
             due("1: no reason for " + node, 0, () -> x.why(target, configuration));
-            due("1: no rule for " + node, Makewheel.NO_RULE, () -> x.plain(target, configuration));
+            due("1: no rule for " + node, NO_RULE, () -> x.plain(target, configuration));
             due("1: nothing fails yet", 0, () -> x.fails(target, 0));
         }
         for (int what = 0; what < 4; what++) {
@@ -205,13 +180,13 @@ public final class PromiseTest {
         due("5: none left", 0, () -> x.fails(0, 4));
         due("5: reuse needs no action", 0, () -> x.build(0, 0));
         x.rule(0, SUM, 0, 1, 1);
-        due("5: fails three times", Makewheel.BROKEN, () -> x.build(0, 0));
+        due("5: fails three times", BROKEN, () -> x.build(0, 0));
         due("5: one is left", 1, () -> x.fails(0, 1));
         due("5: both configurations use them up", 1, () -> x.build(0, 1));
         due("5: by one", 2, () -> x.counts(0));
         due("5: none is left", 0, () -> x.fails(0, 0));
         x.fails(1, 1);
-        due("5: an input that fails is no action", Makewheel.MISSING, () -> x.build(1, 0));
+        due("5: an input that fails is no action", MISSING, () -> x.build(1, 0));
         due("5: so it is left", 1, () -> x.fails(1, 0));
     }
 
@@ -258,7 +233,7 @@ public final class PromiseTest {
         due("7: the run at home never fails", 1, () -> x.build(0, 0));
         due("7: and only comes with a good one", 4, () -> x.counts(0));
         x.fails(0, 3);
-        due("7: three that fail", Makewheel.BROKEN, () -> x.build(0, 1));
+        due("7: three that fail", BROKEN, () -> x.build(0, 1));
         due("7: have none at home", 3, () -> x.counts(0));
     }
 
@@ -284,7 +259,7 @@ public final class PromiseTest {
         x.vanish(2);
         x.fails(0, 3);
         x.forget();
-        due("8: gone, and broken", Makewheel.BROKEN, () -> x.build(0, 0));
+        due("8: gone, and broken", BROKEN, () -> x.build(0, 0));
         due("8: no entry is left", 0, () -> x.entries());
         due("8: one is left to vanish", 1, () -> x.vanish(0));
     }
@@ -373,23 +348,23 @@ public final class PromiseTest {
 
     private static void buildFailures() {
         Makewheel x = new Makewheel();
-        due("11: NO_RULE", Makewheel.NO_RULE, () -> x.build(0, 0));
+        due("11: NO_RULE", NO_RULE, () -> x.build(0, 0));
         sum(x, 0, FILE, 0);
-        due("11: MISSING", Makewheel.MISSING, () -> x.build(0, 0));
+        due("11: MISSING", MISSING, () -> x.build(0, 0));
         sum(x, 1, TARGET, 2, FILE, 0);
-        due("11: the first that fails", Makewheel.NO_RULE, () -> x.build(1, 0));
+        due("11: the first that fails", NO_RULE, () -> x.build(1, 0));
         sum(x, 1, FILE, 0, TARGET, 2);
-        due("11: the first that fails, the other way", Makewheel.MISSING, () -> x.build(1, 0));
+        due("11: the first that fails, the other way", MISSING, () -> x.build(1, 0));
         due("11: the others are not read", UNSEEN, () -> x.done(2, 0));
         sum(x, 2);
         sum(x, 1, TARGET, 2, TARGET, 0, TURNED, 2);
-        due("11: in the middle", Makewheel.MISSING, () -> x.build(1, 0));
+        due("11: in the middle", MISSING, () -> x.build(1, 0));
         due("11: ahead of it is read", RUN, () -> x.done(2, 0));
         due("11: behind it is not", UNSEEN, () -> x.done(2, 1));
         x.fails(2, 3);
         x.forget();
         x.empty();
-        due("11: BROKEN goes up", Makewheel.BROKEN, () -> x.build(1, 0));
+        due("11: BROKEN goes up", BROKEN, () -> x.build(1, 0));
         due("11: no action of the node itself", 3, () -> x.counts(0));
         due("11: failed, too", FAILED, () -> x.done(1, 0));
         due("11: no entry", 0, () -> x.entries());
@@ -397,17 +372,17 @@ public final class PromiseTest {
         x.write(0, 4);
         due("11: then it is built", 4, () -> x.build(1, 0));
         x.write(0, NONE);
-        due("11: then not", Makewheel.MISSING, () -> x.build(1, 0));
+        due("11: then not", MISSING, () -> x.build(1, 0));
         due("11: and what was kept of both is gone", 2, () -> x.forget());
     }
 
     private static void buildRings() {
         Makewheel x = new Makewheel();
         sum(x, 0, TARGET, 0);
-        due("11: itself", Makewheel.RING, () -> x.build(0, 0));
+        due("11: itself", RING, () -> x.build(0, 0));
         due("11: looked at once", 1, () -> x.counts(3));
         sum(x, 0, TURNED, 0);
-        due("11: itself, turned twice", Makewheel.RING, () -> x.build(0, 0));
+        due("11: itself, turned twice", RING, () -> x.build(0, 0));
         due("11: both looked at", 2, () -> x.counts(3));
         give(x, 0, PICK, 0, 0, 1, TURNED, 0);
         due("11: turned once", 0, () -> x.build(0, 0));
@@ -418,23 +393,23 @@ public final class PromiseTest {
         sum(x, 0, TARGET, 2);
         for (int target = 0; target < 3; target++) {
             int each = target;
-            due("11: all of the ring", Makewheel.RING, () -> x.build(each, 0));
+            due("11: all of the ring", RING, () -> x.build(each, 0));
         }
         due("11: nothing of it is kept, but of 0 in 1", 1, () -> x.forget());
         sum(x, 3, TARGET, 1);
-        due("11: what needs it", Makewheel.RING, () -> x.build(3, 0));
+        due("11: what needs it", RING, () -> x.build(3, 0));
         sum(x, 3, FILE, 0, TARGET, 1);
-        due("11: if it reads so far", Makewheel.MISSING, () -> x.build(3, 0));
+        due("11: if it reads so far", MISSING, () -> x.build(3, 0));
         sum(x, 0, FILE, 0, TARGET, 2);
-        due("11: a ring that is not read", Makewheel.MISSING, () -> x.build(2, 0));
+        due("11: a ring that is not read", MISSING, () -> x.build(2, 0));
         Makewheel y = new Makewheel();
         for (int target = 0; target < 16; target++) {
             give(y, target, SUM, 0, 1, 1, TURNED, (target + 1) % 16);
         }
-        due("11: the longest ring without a turn", Makewheel.RING, () -> y.build(5, 0));
+        due("11: the longest ring without a turn", RING, () -> y.build(5, 0));
         due("11: has 16 nodes", 16, () -> y.counts(3));
         give(y, 15, PICK, 0, 1, 1, TARGET, 0, FILE, 0);
-        due("11: all nodes in one row", Makewheel.MISSING, () -> y.build(0, 0));
+        due("11: all nodes in one row", MISSING, () -> y.build(0, 0));
         y.write(0, 100);
         due("11: the row has a value", 116, () -> y.build(0, 0));
         give(y, 15, PICK, 0, 1, 1, FILE, 0, TARGET, 0);
@@ -635,7 +610,7 @@ public final class PromiseTest {
         x.checks(true);
         x.fails(5, 3);
         x.write(0, 11);
-        due("11: those that fail are not checked", Makewheel.BROKEN, () -> x.build(5, 0));
+        due("11: those that fail are not checked", BROKEN, () -> x.build(5, 0));
         due("11: so none is found out", 0, () -> x.away());
         due("11: the home result counts", 111, () -> x.build(5, 0));
         due("11: away", 1, () -> x.away());
@@ -666,7 +641,7 @@ public final class PromiseTest {
         due("11: one run there", 1, () -> y.counts(0));
         y.fails(0, 5);
         y.write(0, 5);
-        due("11: which fails as told", Makewheel.BROKEN, () -> y.build(0, 0));
+        due("11: which fails as told", BROKEN, () -> y.build(0, 0));
         due("11: two are left", 2, () -> y.fails(0, 2));
         due("11: then it is good", 5, () -> y.build(0, 0));
         due("11: at the third time", 3, () -> y.counts(0));
@@ -771,11 +746,11 @@ public final class PromiseTest {
         x.forget();
         x.plain(0, 0);
         due("12: no fetch vanishes", 5, () -> x.vanish(0));
-        due("12: NO_RULE", Makewheel.NO_RULE, () -> x.plain(5, 1));
+        due("12: NO_RULE", NO_RULE, () -> x.plain(5, 1));
         sum(x, 5, TARGET, 1, FILE, 19);
-        due("12: MISSING", Makewheel.MISSING, () -> x.plain(5, 1));
+        due("12: MISSING", MISSING, () -> x.plain(5, 1));
         sum(x, 5, TURNED, 5);
-        due("12: RING", Makewheel.RING, () -> x.plain(5, 1));
+        due("12: RING", RING, () -> x.plain(5, 1));
         for (int wrong : WRONG) {
             Due.throwsIt("12: target " + wrong, INDEX, () -> x.plain(wrong, 0));
             Due.throwsIt("12: configuration " + wrong, INDEX, () -> x.plain(0, wrong));
